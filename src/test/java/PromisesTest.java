@@ -1,23 +1,5 @@
-import java.util.concurrent.Callable;
-
 /** For each promise of the document: ordinary inputs, the edges it names, and wrong inputs. */
-public final class PromisesTest {
-    private static final String BOUNDS = "IndexOutOfBoundsException";
-    private static final String ARGUMENT = "IllegalArgumentException";
-    private static final String STATE = "IllegalStateException";
-    private static final int LOWEST = Integer.MIN_VALUE;
-    private static final int HIGHEST = Integer.MAX_VALUE;
-    private static final int NONE = -1;
-    private static final int GAUGE = 0;
-    private static final int COUNTER = 1;
-    private static final int NEITHER = 0;
-    private static final int HIDDEN = 1;
-    private static final int SHOWN = 2;
-
-    private static String promise = "";
-    private static int checks = 0;
-    private static int wrong = 0;
-
+public final class PromisesTest extends Checks {
     public static void main(String[] args) {
         constants();
         aNewObject();
@@ -51,14 +33,11 @@ public final class PromisesTest {
         setNeighbour();
         reach();
         halves();
-        System.out.println(wrong == 0 ? checks + " checks, all as due" : wrong + " of " + checks + " checks failed");
-        if (wrong != 0) {
-            System.exit(1);
-        }
+        end();
     }
 
     private static void constants() {
-        promise = "the constants";
+        about("the constants");
         due("NONE", -1, Managetree.NONE);
         due("GAUGE", 0, Managetree.GAUGE);
         due("COUNTER", 1, Managetree.COUNTER);
@@ -68,7 +47,7 @@ public final class PromisesTest {
     }
 
     private static void aNewObject() {
-        promise = "1, a new object";
+        about("promise 1, a new object");
         Managetree x = new Managetree();
         due("the path is empty", NONE, x.numberAt(0));
         due("pass tells that the clock was 0", 1, x.pass(1));
@@ -89,7 +68,7 @@ public final class PromisesTest {
     }
 
     private static void write() {
-        promise = "2, write";
+        about("promise 2, write");
         Managetree x = new Managetree();
         due("first", 1, x.write(0));
         thrown("under", ARGUMENT, () -> x.write(-1));
@@ -106,7 +85,7 @@ public final class PromisesTest {
     }
 
     private static void wipe() {
-        promise = "3, wipe";
+        about("promise 3, wipe");
         Managetree x = new Managetree();
         due("empty", 0, x.wipe());
         for (int length = 1; length <= 4; length++) {
@@ -139,7 +118,7 @@ public final class PromisesTest {
     }
 
     private static void numberAt() {
-        promise = "4, numberAt";
+        about("promise 4, numberAt");
         Managetree x = new Managetree();
         path(x, 9, 0, 4);
         due("first", 9, x.numberAt(0));
@@ -155,7 +134,7 @@ public final class PromisesTest {
     }
 
     private static void put() {
-        promise = "5, put";
+        about("promise 5, put");
         Managetree x = new Managetree();
         thrown("empty path", STATE, () -> x.put(0, GAUGE, 1));
         thrown("value before path", ARGUMENT, () -> x.put(0, GAUGE, -1));
@@ -189,7 +168,7 @@ public final class PromisesTest {
     }
 
     private static void putInPlaceOfAnother() {
-        promise = "5, put in place of another";
+        about("promise 5, put in place of another");
         Managetree x = new Managetree();
         path(x, 2);
         x.put(0, COUNTER, 0);
@@ -217,7 +196,7 @@ public final class PromisesTest {
     }
 
     private static void putAtMostTwenty() {
-        promise = "5, put at most 20";
+        about("promise 5, put at most 20");
         Managetree x = new Managetree();
         for (int i = 0; i < 20; i++) {
             path(x, i / 10, i % 10);
@@ -239,7 +218,7 @@ public final class PromisesTest {
     }
 
     private static void remove() {
-        promise = "6, remove";
+        about("promise 6, remove");
         Managetree x = new Managetree();
         due("empty path", NONE, x.remove(0));
         path(x, 1);
@@ -270,7 +249,7 @@ public final class PromisesTest {
     }
 
     private static void change() {
-        promise = "7, change";
+        about("promise 7, change");
         Managetree x = new Managetree();
         thrown("empty path", STATE, () -> x.change(0, 1));
         path(x, 1);
@@ -298,7 +277,7 @@ public final class PromisesTest {
     }
 
     private static void get() {
-        promise = "8, get";
+        about("promise 8, get");
         Managetree x = new Managetree();
         due("empty path", NONE, x.get(0));
         path(x, 4, 4);
@@ -333,7 +312,7 @@ public final class PromisesTest {
     }
 
     private static void next() {
-        promise = "9, next";
+        about("promise 9, next");
         Managetree x = withSevenObjects();
         thrown("under", BOUNDS, () -> x.next(-1));
         thrown("over", BOUNDS, () -> x.next(4));
@@ -360,7 +339,7 @@ public final class PromisesTest {
     }
 
     private static void nextWhileObjectsChange() {
-        promise = "9, next while objects change";
+        about("promise 9, next while objects change");
         Managetree x = withSevenObjects();
         due("first", 10, x.next(2));
         x.remove(2);
@@ -387,7 +366,7 @@ public final class PromisesTest {
     }
 
     private static void bulk() {
-        promise = "10, bulk";
+        about("promise 10, bulk");
         Managetree x = withSevenObjects();
         thrown("agent under", BOUNDS, () -> x.bulk(-1, 1));
         thrown("agent over", BOUNDS, () -> x.bulk(4, 1));
@@ -427,7 +406,7 @@ public final class PromisesTest {
     }
 
     private static void nextBySorting() {
-        promise = "11, nextBySorting";
+        about("promise 11, nextBySorting");
         Managetree x = withSevenObjects();
         thrown("under", BOUNDS, () -> x.nextBySorting(-1));
         thrown("over", BOUNDS, () -> x.nextBySorting(4));
@@ -453,7 +432,7 @@ public final class PromisesTest {
     }
 
     private static void hide() {
-        promise = "12, hide";
+        about("promise 12, hide");
         Managetree x = new Managetree();
         thrown("agent under", BOUNDS, () -> x.hide(-1, HIDDEN));
         thrown("agent over", BOUNDS, () -> x.hide(4, HIDDEN));
@@ -478,7 +457,7 @@ public final class PromisesTest {
     }
 
     private static void hideByTheLongestHead() {
-        promise = "12, hide by the longest head";
+        about("promise 12, hide by the longest head");
         Managetree x = new Managetree();
         path(x, 1, 2, 3, 4);
         x.put(0, GAUGE, 6);
@@ -512,7 +491,7 @@ public final class PromisesTest {
     }
 
     private static void hideAtMostTen() {
-        promise = "12, hide at most 10";
+        about("promise 12, hide at most 10");
         Managetree x = new Managetree();
         for (int i = 0; i < 10; i++) {
             path(x, i);
@@ -541,7 +520,7 @@ public final class PromisesTest {
     }
 
     private static void seen() {
-        promise = "13, seen";
+        about("promise 13, seen");
         Managetree x = withSevenObjects();
         due("all", 7, x.seen(2));
         due("none", 0, x.seen(1));
@@ -561,7 +540,7 @@ public final class PromisesTest {
     }
 
     private static void sample() {
-        promise = "14, sample";
+        about("promise 14, sample");
         Managetree x = new Managetree();
         thrown("empty path", STATE, () -> x.sample(0));
         path(x, 1);
@@ -589,7 +568,7 @@ public final class PromisesTest {
     }
 
     private static void rate() {
-        promise = "15, rate";
+        about("promise 15, rate");
         Managetree x = new Managetree();
         thrown("empty path", STATE, () -> x.rate(0));
         path(x, 1);
@@ -629,7 +608,7 @@ public final class PromisesTest {
     }
 
     private static void rateIsNone() {
-        promise = "15, rate is none";
+        about("promise 15, rate is none");
         Managetree x = new Managetree();
         path(x, 1);
         x.put(0, COUNTER, 5);
@@ -659,7 +638,7 @@ public final class PromisesTest {
     }
 
     private static void setMarks() {
-        promise = "16, setMarks";
+        about("promise 16, setMarks");
         Managetree x = new Managetree();
         thrown("empty path", STATE, () -> marks(x, 0, 0, 1));
         path(x, 1);
@@ -702,7 +681,7 @@ public final class PromisesTest {
     }
 
     private static void marksArmAgain() {
-        promise = "16, marks arm again";
+        about("promise 16, marks arm again");
         Managetree x = new Managetree();
         path(x, 1);
         x.put(0, GAUGE, 0);
@@ -738,7 +717,7 @@ public final class PromisesTest {
     }
 
     private static void restart() {
-        promise = "17, restart";
+        about("promise 17, restart");
         Managetree x = withSevenObjects();
         thrown("under", BOUNDS, () -> x.restart(-1));
         thrown("over", BOUNDS, () -> x.restart(4));
@@ -777,7 +756,7 @@ public final class PromisesTest {
     }
 
     private static void pass() {
-        promise = "18, pass";
+        about("promise 18, pass");
         Managetree x = new Managetree();
         thrown("none", ARGUMENT, () -> x.pass(0));
         thrown("under", ARGUMENT, () -> x.pass(-1));
@@ -803,7 +782,7 @@ public final class PromisesTest {
     }
 
     private static void traps() {
-        promise = "19, traps";
+        about("promise 19, traps");
         Managetree x = new Managetree();
         due("none", 0, x.traps());
         path(x, 1);
@@ -840,7 +819,7 @@ public final class PromisesTest {
     }
 
     private static void trapOfAndTrapAt() {
-        promise = "20 and 21, trapOf and trapAt";
+        about("promise 20 and 21, trapOf and trapAt");
         Managetree x = new Managetree();
         thrown("none yet", BOUNDS, () -> x.trapOf(0));
         thrown("none yet", BOUNDS, () -> x.trapAt(0));
@@ -866,7 +845,7 @@ public final class PromisesTest {
     }
 
     private static void repeats() {
-        promise = "22, repeats";
+        about("promise 22, repeats");
         Managetree x = new Managetree();
         thrown("none yet", BOUNDS, () -> x.repeats(0));
         path(x, 1);
@@ -903,7 +882,7 @@ public final class PromisesTest {
     }
 
     private static void setNeighbour() {
-        promise = "23, setNeighbour";
+        about("promise 23, setNeighbour");
         Managetree x = new Managetree();
         thrown("agent under", BOUNDS, () -> x.setNeighbour(-1, 0, 1));
         thrown("agent over", BOUNDS, () -> x.setNeighbour(4, 0, 1));
@@ -931,7 +910,7 @@ public final class PromisesTest {
     }
 
     private static void reach() {
-        promise = "24, reach";
+        about("promise 24, reach");
         Managetree x = new Managetree();
         thrown("under", BOUNDS, () -> x.reach(-1));
         thrown("over", BOUNDS, () -> x.reach(4));
@@ -960,7 +939,7 @@ public final class PromisesTest {
     }
 
     private static void halves() {
-        promise = "25, halves";
+        about("promise 25, halves");
         Managetree x = new Managetree();
         x.setNeighbour(2, 0, 0);
         due("one names the other", 1, x.halves());
@@ -990,60 +969,11 @@ public final class PromisesTest {
         x.change(0, 1);
     }
 
-    private static Object marks(Managetree x, int agent, int low, int high) {
-        x.setMarks(agent, low, high);
-        return null;
-    }
-
     private static int[] head(int length) {
         int[] numbers = new int[length];
         for (int i = 0; i < length; i++) {
             numbers[i] = i + 1;
         }
         return numbers;
-    }
-
-    private static void path(Managetree x, int... numbers) {
-        x.wipe();
-        for (int number : numbers) {
-            x.write(number);
-        }
-    }
-
-    private static void pathIs(Managetree x, int... numbers) {
-        for (int place = 0; place < 4; place++) {
-            due("number " + place, place < numbers.length ? numbers[place] : NONE, x.numberAt(place));
-        }
-    }
-
-    private static void due(String what, int want, int got) {
-        checks++;
-        if (got != want) {
-            tell(what + ": answered " + got + ", due is " + want);
-        }
-    }
-
-    private static void thrown(String what, String want, Callable<Object> call) {
-        checks++;
-        String got = "nothing";
-        try {
-            call.call();
-        } catch (Exception e) {
-            got = e.getClass().getSimpleName() + thrower(e);
-        }
-        if (!got.equals(want)) {
-            tell(what + ": threw " + got + ", due is " + want);
-        }
-    }
-
-    // The class is to throw by itself, not to leave it to a list or to the machine.
-    private static String thrower(Exception e) {
-        String name = e.getStackTrace()[0].getClassName();
-        return name.startsWith("Managetree") ? "" : " from " + name;
-    }
-
-    private static void tell(String what) {
-        wrong++;
-        System.out.println("promise " + promise + ": " + what);
     }
 }
